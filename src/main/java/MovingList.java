@@ -818,7 +818,7 @@ public final class MovingList {
             return s >= 0 && s < log.sites;
         }
 
-        /** An op is made at a site, done there and posted to the others: its name, NONE beyond 40. */
+        /** An op is made at a site, done there and posted to others: its name, NONE beyond 40. */
         int make(int s, int kind, int element, int behind, int letter) {
             Site maker = sites[s];
             int slot = log.open(s, maker.clock + 1, maker.vector);
@@ -1090,7 +1090,7 @@ public final class MovingList {
             System.arraycopy(from.moves, 0, moves, 0, SLOTS);
         }
 
-        /** As if just the ops up to some numbers were done, a number for each site from start on. */
+        /** As if just the ops up to some numbers were done, for each site one from start on. */
         void build(Log log, int[] limits, int start) {
             clear();
             for (int k = 0; k < log.total; k++) {
@@ -1274,9 +1274,9 @@ public final class MovingList {
 
     /** Reads a script into steps: of each deed its index in DEEDS and three values. */
     private static final class Script {
-        static final int MISPLACED = 1;
-        static final int TOO_LONG = 2;
-        static final int MOST_DIGITS = 3;
+        private static final int MISPLACED = 1;
+        private static final int TOO_LONG = 2;
+        private static final int MOST_DIGITS = 3;
 
         // The shortest deed, all;, has as many bytes as a step has fields.
         final int[] steps = new int[TAPE_BYTES];

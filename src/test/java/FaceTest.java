@@ -109,8 +109,8 @@ public final class FaceTest {
     /** Nothing but NoSuchElementException of at() comes out, whatever is asked. */
     private void oddArguments() {
         int[] odd = {Integer.MIN_VALUE, Integer.MIN_VALUE + 1, -101, -100, -1, 0, 1, 4, 5, 39, 40,
-            41, 59, 60, 61, 99, 100, 199, 200, 201, 399, 400, 440, 441, 500, Integer.MAX_VALUE - 1,
-            Integer.MAX_VALUE};
+            41, 59, 60, 61, 99, 100, 199, 200, 201, 399, 400, 440, 441, 500, 501,
+            Integer.MAX_VALUE - 1, Integer.MAX_VALUE};
         MovingList x = new MovingList();
         x.sites(5);
         int calls = 0;

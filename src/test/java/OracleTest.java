@@ -1,7 +1,11 @@
+import java.nio.charset.StandardCharsets;
 import java.util.NoSuchElementException;
 import java.util.Random;
 
-/** Random runs of calls, each answered by the class and by the oracle. */
+/**
+ * Random runs of calls, each answered by the class and by the oracle. By two arguments other runs
+ * than those of .ci/run: the first one and the one behind the last.
+ */
 public final class OracleTest {
     private static final int RUNS = 98;
     private static final int CALLS = 500;
@@ -47,7 +51,9 @@ public final class OracleTest {
     public static void main(String[] args) {
         int wrong = 0;
         long calls = 0;
-        for (int run = 0; run < RUNS && wrong < 3; run++) {
+        int first = args.length == 2 ? Integer.parseInt(args[0]) : 0;
+        int end = args.length == 2 ? Integer.parseInt(args[1]) : RUNS;
+        for (int run = first; run < end && wrong < 3; run++) {
             OracleTest test = new OracleTest(run);
             test.go();
             calls += test.calls;
@@ -104,7 +110,7 @@ public final class OracleTest {
 
     private int odd() {
         int[] odds = {-1, -2, 5, 6, 40, 60, 100, 400, 500, Integer.MAX_VALUE, Integer.MIN_VALUE,
-            o.all(0), -100, -101, 199, 200, 26, 3, 4};
+            o.all(0), -100, -101, 199, 200, 26, 3, 4, 501, 540};
         return odds[random.nextInt(odds.length)];
     }
 
@@ -122,7 +128,8 @@ public final class OracleTest {
         }
         int s = random.nextInt(o.all(0));
         int made = o.count(s, 5);
-        return 100 * s + (random.nextInt(12) == 0 ? from(0, made + 1) : from(Math.min(1, made), made));
+        int least = Math.min(1, made);
+        return 100 * s + (random.nextInt(12) == 0 ? from(0, made + 1) : from(least, made));
     }
 
     private int from(int least, int most) {
@@ -234,8 +241,7 @@ public final class OracleTest {
                 Check.number(b, i + 12), Check.number(b, i + 16));
         int got = x.feed(Check.number(b, i), Check.number(b, i + 4), Check.number(b, i + 8),
                 Check.number(b, i + 12), Check.number(b, i + 16));
-        told.append("feed ").append(new String(b, i, 20, java.nio.charset.StandardCharsets.ISO_8859_1))
-                .append("; ");
+        told.append("feed ").append(new String(b, i, 20, StandardCharsets.ISO_8859_1)).append("; ");
         if (want != got) {
             wrong = true;
             told.append("answered ").append(got).append(", due is ").append(want);

@@ -56,7 +56,9 @@ public final class PromiseTest {
         t.scriptTape34();
         t.image35();
         t.back36();
+        t.backToOtherOps36();
         t.all37();
+        t.allOfEach37();
         t.forty();
         t.c.end();
     }
@@ -86,7 +88,13 @@ public final class PromiseTest {
         c.due("2 all stays when refused", 1, x.length(0));
         for (int n = 2; n <= 5; n++) {
             Check.write(x, 0, "ab");
-            x.deliver(1, 1);
+            x.move(0, 0, 1);
+            x.change(0, 0, 7);
+            x.sync(0, 1);
+            x.tell(0, 1);
+            x.insert(0, 0, 1);
+            x.insert(0, 0, 1);
+            x.deliver(1, 5);
             x.lose(1, 0);
             x.image(0);
             x.image(1);
@@ -104,6 +112,15 @@ public final class PromiseTest {
             c.due("2 no image 1", false, x.back(1));
             c.due("2 tape stays", taped, x.all(5));
             c.due("2 clock", 0, x.count(0, 4));
+            c.due("2 vector", 0, x.vector(1, 0));
+            c.due("2 nothing known", 0, x.knows(1, 0, 0));
+            c.dueText("2 places", "0", Check.places(x, 1));
+            x.insert(0, 0, 3);
+            c.due("2 not moved", 0, x.at(0, 0, 3));
+            c.dueText("2 its own letter", "d", Check.letters(x, 0));
+            c.due("2 not at site 1", -1, x.index(1, 1));
+            c.due("2 no element at site 1", 0, x.count(1, 1));
+            x.sites(n);
         }
     }
 
@@ -270,6 +287,9 @@ public final class PromiseTest {
         for (int s : NO_SITES) {
             c.due("7 site", -1, x.revert(s));
         }
+        x.insert(1, 0, 0);
+        c.due("7 the only one", 102, x.revert(1));
+        x.sites(3);
         Check.write(x, 0, "ab");
         c.due("7 insert", 3, x.revert(0));
         c.due("7 by a drop", 2, x.op(3, 0));
@@ -402,57 +422,72 @@ public final class PromiseTest {
         c.dueText("8 one list", Check.names(y, 0), Check.names(z, 0));
     }
 
-    private static final String[] KINDS = {"insert", "insert", "insert", "move", "drop", "change",
-        "deliver", "sync"};
+    private int drawn;
 
-    /** One chance for many seeds, each against the act that its draws tell. */
+    private int draw(int m) {
+        drawn = drawn * 1103515245 + 12345;
+        return (drawn >>> 8) % m;
+    }
+
+    /** One chance by the words of the document, done by other calls: its answer. */
+    private int replay(MovingList y) {
+        int s = draw(y.all(0));
+        int kind = draw(8);
+        int n = y.length(s);
+        int waits = y.post(s, 0, -1);
+        kinds[kind]++;
+        if (kind <= 2) {
+            int i = draw(n + 1);
+            return y.insert(s, i, draw(26));
+        }
+        if (kind == 7) {
+            return y.sync(draw(y.all(0)), s);
+        }
+        if (kind == 6) {
+            return waits == 0 ? -1 : y.deliver(s, draw(waits));
+        }
+        if (n == 0) {
+            return -1;
+        }
+        int i = draw(n);
+        return kind == 3 ? y.move(s, i, draw(n)) : kind == 4 ? y.drop(s, i)
+                : y.change(s, i, draw(26));
+    }
+
+    private final int[] kinds = new int[8];
+
+    /** Chances for many seeds, against the acts that their draws tell. */
     private void chanceKinds8() {
-        int[] seen = new int[8];
-        for (int seed = -40; seed < 160; seed++) {
+        for (int seed = -100; seed < 100; seed++) {
+            int times = seed < 0 ? 1 : 5;
             MovingList x = ready();
             MovingList y = ready();
-            int[] d = draws(seed, 4, 8);
-            int s = d[0];
-            int n = y.length(s);
-            int waits = y.post(s, 0, -1);
-            int want = -1;
-            seen[d[1]]++;
-            if (d[1] <= 2) {
-                int[] e = draws(seed, 4, 8, n + 1, 26);
-                want = y.insert(s, e[2], e[3]);
-            } else if (d[1] == 7) {
-                want = y.sync(draws(seed, 4, 8, 4)[2], s);
-            } else if (d[1] == 6 && waits > 0) {
-                want = y.deliver(s, draws(seed, 4, 8, waits)[2]);
-            } else if (d[1] < 6 && n > 0) {
-                int[] e = draws(seed, 4, 8, n, d[1] == 5 ? 26 : n);
-                want = d[1] == 3 ? y.move(s, e[2], e[3]) : d[1] == 4 ? y.drop(s, e[2])
-                        : y.change(s, e[2], e[3]);
+            int want = 0;
+            drawn = seed;
+            for (int k = 0; k < times; k++) {
+                want += replay(y) == -1 ? 0 : 1;
             }
-            String what = "8 " + KINDS[d[1]] + " by seed " + seed;
-            c.due(what, want == -1 ? 0 : 1, x.chance(1, seed));
-            for (int t = 0; t < 4; t++) {
-                c.dueText(what, Check.names(y, t) + Check.letters(y, t) + y.post(t, 0, -1)
-                        + y.post(t, 1, -1), Check.names(x, t) + Check.letters(x, t)
-                        + x.post(t, 0, -1) + x.post(t, 1, -1));
-            }
+            c.due("8 chance by seed " + seed, want, x.chance(times, seed));
+            c.dueText("8 all of it by seed " + seed, state(y), state(x));
         }
         for (int kind = 0; kind < 8; kind++) {
-            c.due("8 kind " + kind + " came", true, seen[kind] > 0);
+            c.due("8 kind " + kind + " came", true, kinds[kind] > 5);
         }
     }
 
-    /** Four sites: one wrote, one has some of it, one has nothing, one has all and nothing waits. */
+    /** One site wrote, one has a part, two have nothing, the last one has one op and no post. */
     private static MovingList ready() {
         MovingList x = new MovingList();
-        x.sites(4);
+        x.sites(5);
+        x.insert(3, 0, 5);
+        x.sync(3, 4);
         Check.write(x, 0, "abcde");
         x.deliver(1, 0);
         x.deliver(1, 0);
         x.deliver(1, 1);
-        x.sync(0, 3);
-        for (int k = 0; k < 5; k++) {
-            x.lose(3, 0);
+        for (int k = 0; k < 6; k++) {
+            x.lose(4, 0);
+            x.lose(2, 1);
         }
         return x;
     }
@@ -519,6 +554,9 @@ public final class PromiseTest {
         c.due("10 at that site alone", 3, x.post(2, 0, -1));
         c.due("10 not done", false, x.has(1, 2));
         c.due("10 the maker has it", true, x.has(0, 2));
+        c.due("10 none such any more", -1, x.lose(1, 2));
+        c.due("10 nor to be delivered", -1, x.deliver(1, 2));
+        c.due("10 nor to come twice", -1, x.twice(1, 2));
     }
 
     private void twice11() {
@@ -646,6 +684,8 @@ public final class PromiseTest {
         c.dueText("14 places", "0 1", Check.places(x, 0));
         c.due("14 no more", 0, x.sweep(0));
         c.due("14 at that site alone", 4, x.count(1, 0));
+        c.due("14 site 1 knows nothing", 0, x.sweep(1));
+        c.due("14 and keeps all", 4, x.count(1, 0));
         c.due("14 forgotten", 1, x.count(0, 1));
         // A place behind which another one was told stays.
         MovingList y = new MovingList();
@@ -704,6 +744,20 @@ public final class PromiseTest {
         z.tell(1, 0);
         c.due("14 seen", 1, z.sweep(0));
         c.due("14 the other site knows nothing", 0, z.sweep(1));
+        // The latest op of all is the move of one that was dropped meanwhile.
+        MovingList v = new MovingList();
+        v.sites(2);
+        Check.write(v, 0, "ab");
+        v.sync(0, 1);
+        v.drop(0, 1);
+        v.change(1, 0, 3);
+        v.move(1, 1, 0);
+        v.sync(0, 1);
+        v.sync(1, 0);
+        v.tell(1, 0);
+        c.dueText("14 places", "0 102 1 2", Check.places(v, 0));
+        c.due("14 both of b", 2, v.sweep(0));
+        c.dueText("14 places", "0 1", Check.places(v, 0));
     }
 
     private void length15() {
@@ -899,6 +953,9 @@ public final class PromiseTest {
         c.due("22 time of one that has seen nothing", 1, x.op(201, 1));
         x.sites(2);
         c.due("22 all is as at first", -2, x.op(101, 0));
+        x.sites(5);
+        c.due("22 beyond the last site", -2, x.op(501, 0));
+        c.due("22 beyond the last op", -2, x.op(440, 0));
     }
 
     private void needs23() {
@@ -989,6 +1046,14 @@ public final class PromiseTest {
         c.due("26 upwards", 101, x.rivals(201, 1));
         c.due("26 of another element", 0, x.rivals(4, -1));
         c.due("26 an insert has none", 0, x.rivals(1, -1));
+        MovingList y = new MovingList();
+        c.due("26 no ops", -1, y.rivals(1, -1));
+        y.insert(1, 0, 0);
+        Check.syncAll(y);
+        y.move(0, 0, 0);
+        y.drop(2, 0);
+        c.due("26 the first op of site 0", 1, y.rivals(201, 0));
+        c.due("26 the other way round", 201, y.rivals(1, 0));
         for (int name : new int[] {0, 5, 102, 203, 301, -1, LOW, HIGH}) {
             c.due("26 name", -1, x.rivals(name, -1));
         }
@@ -1034,6 +1099,16 @@ public final class PromiseTest {
         x.sync(1, 0);
         counts("28 an older one comes", x, 0, 7, 4, 1, 0, 6, 6, 1, 3);
         counts("28 another site", x, 1, 2, 1, 0, 0, 1, 1, 0, 1);
+        MovingList y = new MovingList();
+        y.insert(0, 0, 0);
+        y.sync(0, 1);
+        y.move(1, 0, 0);
+        y.move(1, 0, 0);
+        counts("28 two moves", y, 1, 4, 1, 0, 0, 3, 2, 1, 1);
+        counts("28 none of them", y, 0, 2, 1, 0, 0, 1, 1, 0, 1);
+        y.insert(0, 1, 1);
+        c.due("28 one behind another", 2, y.count(0, 7));
+        c.due("28 at its own depth", 1, y.count(1, 7));
         for (int s : NO_SITES) {
             c.due("28 site", -1, x.count(s, 0));
         }
@@ -1274,6 +1349,8 @@ public final class PromiseTest {
         fault("all 0;", 4, 1);
         fault("revert 0;", 0, 1);
         fault("x", 0, 1);
+        fault("xrop 0 0;", 0, 1);
+        fault("drox 0 0;", 0, 1);
         fault(put + "\377", 14, 1);
         fault(put + "\0", 14, 1);
     }
@@ -1337,6 +1414,8 @@ public final class PromiseTest {
         }
         String was = state(x);
         Check.feed(x, "all;");
+        x.lose(1, 0);
+        x.move(1, 0, 0);
         x.chance(60, 3);
         Check.syncAll(x);
         Check.tellAll(x, 0);
@@ -1358,6 +1437,34 @@ public final class PromiseTest {
         c.dueText("36 all is as it was", was, state(x));
     }
 
+    /** Two images whose ops bear the same names. */
+    private void backToOtherOps36() {
+        MovingList x = new MovingList();
+        Check.write(x, 0, "abc");
+        x.image(0);
+        x.sync(0, 1);
+        x.move(1, 0, 2);
+        x.change(0, 1, 20);
+        x.insert(0, 0, 21);
+        x.drop(0, 3);
+        x.sync(1, 0);
+        x.image(1);
+        String was = state(x);
+        x.back(0);
+        x.drop(0, 2);
+        x.sync(0, 2);
+        x.move(0, 1, 0);
+        x.move(0, 1, 0);
+        x.insert(1, 0, 8);
+        x.insert(2, 0, 9);
+        x.sync(2, 1);
+        c.due("36 all is other", false, was.equals(state(x)));
+        c.due("36 the other one", true, x.back(1));
+        c.dueText("36 its own ops", was, state(x));
+        Check.syncAll(x);
+        c.due("36 one list", 1, x.all(6));
+    }
+
     /** All that can be asked of a group of sites. */
     private static String state(MovingList x) {
         StringBuilder text = new StringBuilder();
@@ -1369,6 +1476,9 @@ public final class PromiseTest {
                     .append('/').append(Check.places(x, s)).append('/');
             for (int what = 0; what < 8; what++) {
                 text.append(x.count(s, what)).append(' ');
+            }
+            for (int i = 0; i < x.length(s); i++) {
+                text.append(x.at(s, i, 2)).append('m').append(x.at(s, i, 3)).append(' ');
             }
             for (int row = 0; row < 2; row++) {
                 for (int i = -1; i < x.post(s, row, -1); i++) {
@@ -1433,6 +1543,38 @@ public final class PromiseTest {
         for (int what : new int[] {-1, 8, LOW, HIGH}) {
             c.due("37 what", -1, x.all(what));
         }
+    }
+
+    /** What is counted over all sites is counted at each of them. */
+    private void allOfEach37() {
+        for (int s = 0; s < 3; s++) {
+            MovingList x = new MovingList();
+            int t = (s + 1) % 3;
+            Check.write(x, t, "ab");
+            c.due("37 only at " + t, 0, x.all(6));
+            x.deliver(s, 1);
+            c.due("37 held at " + s, 1, x.all(3));
+            x.deliver(s, 0);
+            c.due("37 done at " + s, 0, x.all(3));
+            c.due("37 lacking at one", 2, x.all(7));
+            Check.syncAll(x);
+            x.change(s, 0, 9);
+            c.due("37 another letter at " + s, 0, x.all(6));
+            MovingList y = new MovingList();
+            Check.write(y, t, "ab");
+            y.sync(t, 3 - s - t);
+            c.due("37 lacking at " + s, 2, y.all(7));
+            c.due("34 all", 1, Check.script(y, "all;"));
+            c.due("34 delivered at " + s, 2, y.length(s));
+            y.deliver(s, 0);
+            y.move(s, 1, 0);
+            c.due("37 moved at " + s, 0, y.all(6));
+        }
+        MovingList z = new MovingList();
+        for (int s = 0; s < 3; s++) {
+            z.insert(s, 0, 4);
+        }
+        c.due("37 like letters, unlike names", 0, z.all(6));
     }
 
     private void forty() {
