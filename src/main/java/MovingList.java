@@ -1297,7 +1297,8 @@ public final class MovingList {
             at = 0;
             deeds = 0;
             skipBlanks();
-            while (at < end) {
+            // A deed takes bytes, so there are never more of them than bytes.
+            for (int k = 0; k < end && at < end; k++) {
                 if (!readDeed()) {
                     return false;
                 }
