@@ -13,6 +13,7 @@ public final class AnswerEdgeTest {
         t.newObject1();
         t.sitesAsAtFirst2();
         t.sitesAndThen2();
+        t.sitesForgetsOpsOfLikeNames2();
         t.moveToWhereItIs4();
         t.dropAtAnIndex5();
         t.changeAtAnIndex6();
@@ -124,6 +125,27 @@ public final class AnswerEdgeTest {
             }
             c.dueText("as on a new one", Check.state(fresh), Check.state(x));
         }
+    }
+
+    /** Ops and elements of names that were there ahead of sites() are others. */
+    private void sitesForgetsOpsOfLikeNames2() {
+        MovingList x = row(2);
+        x.move(0, 0, 1);
+        x.change(0, 0, 9);
+        x.drop(0, 0);
+        Check.syncAll(x);
+        x.sites(3);
+        c.due("an insert", 1, x.insert(0, 0, 4));
+        c.due("a second one", 2, x.insert(0, 1, 5));
+        c.due("not moved", 0, x.at(0, 0, 3));
+        c.dueText("its own letters", "ef", Check.letters(x, 0));
+        c.dueText("at their own places", "0 1 2", Check.places(x, 0));
+        c.dueText("nothing at site 1", "1 0 0 0 0 0 0 0", Check.join(8, what -> x.count(1, what)));
+        c.due("nor in its list", -1, x.index(1, 1));
+        x.sync(0, 1);
+        c.dueText("till it is done there", "3 2 0 0 2 0 0 2",
+                Check.join(8, what -> x.count(1, what)));
+        c.due("not moved there", 0, x.at(1, 0, 3));
     }
 
     /** "(Also to where it is.)": an op like any other. */
@@ -482,10 +504,21 @@ public final class AnswerEdgeTest {
         x.sync(0, 1);
         x.insert(1, 0, 0);
         c.dueText("none of another element", "", Check.rivals(x, 2));
-        x.sites(3);
-        x.insert(0, 0, 0);
-        x.change(0, 0, 5);
-        c.dueText("none", "", Check.rivals(x, 2));
+        MovingList y = row(1);
+        y.sync(0, 1);
+        y.change(0, 0, 3);
+        y.change(1, 0, 4);
+        y.drop(1, 0);
+        c.dueText("two", "101 102", Check.rivals(y, 2));
+        y.sites(3);
+        y.insert(0, 0, 0);
+        y.change(0, 0, 5);
+        c.dueText("none", "", Check.rivals(y, 2));
+        y.sync(0, 1);
+        y.change(1, 0, 6);
+        c.dueText("none, as it needs that one", "", Check.rivals(y, 2));
+        y.change(0, 0, 7);
+        c.dueText("one", "101", Check.rivals(y, 3));
     }
 
     /** has: done or not, held, lost; "false: others, too". */

@@ -93,7 +93,8 @@ public final class FaceTest {
 
     private static void manyCalls(MovingList x) {
         x.sites(5);
-        for (int k = 0; k < 128; k++) {
+        // 9 calls each time, as many as fit into 512.
+        for (int k = 0; k < 56; k++) {
             x.chance(60, k);
             x.image(k & 1);
             x.sweep(k % 5);
